@@ -413,12 +413,10 @@ public final class StarShells {
     }
 
     private boolean fitsWith(int star, int unit) {
-        Star it = now.stars[star];
-        inside.settle(it, lawsNow(), unit);
+        inside.settle(now.stars[star], lawsNow(), unit);
         if (inside.calmness == 0) {
             return false;
         }
-        inside.shine(it, lawsNow());
         boolean heard = tones.listen(inside);
         for (int sight = 0; sight < now.sights; sight++) {
             if (sights.stars[sight] == star && !agrees(sight, heard)) {
@@ -433,6 +431,7 @@ public final class StarShells {
         int to = sights.to[sight];
         int tone = sights.tones[sight];
         if (tone == NONE) {
+            inside.shine(now.stars[sights.stars[sight]], lawsNow());
             int rim = inside.shells - 1;
             return rim >= 0 && inside.least[rim] <= to && inside.greatest[rim] >= from;
         }
@@ -846,7 +845,6 @@ public final class StarShells {
             System.arraycopy(other.chains, 0, chains, 0, chains.length);
             System.arraycopy(other.counts, 0, counts, 0, counts.length);
             System.arraycopy(other.points, 0, points, 0, points.length);
-            clauses = other.clauses;
         }
 
         int ofChain(int chain, int what) {
@@ -1117,9 +1115,11 @@ public final class StarShells {
         int shells;
         /** As settled answers it. */
         int calmness;
+        private boolean hasShone;
 
         void settle(Star star, Laws laws, int unit) {
             shells = star.shells;
+            hasShone = false;
             calmness = shells == 0 ? 0 : 2;
             int above = 0;
             for (int shell = shells - 1; shell >= 0; shell--) {
@@ -1136,8 +1136,12 @@ public final class StarShells {
             }
         }
 
-        /** THROUGH and what it makes of the SHELLS, behind settle. */
+        /** THROUGH and what it makes of the SHELLS, once behind each settle: it is dear. */
         void shine(Star star, Laws laws) {
+            if (hasShone) {
+                return;
+            }
+            hasShone = true;
             long low = 0;
             long high = 0;
             for (int shell = 0; shell < shells; shell++) {
@@ -1204,7 +1208,6 @@ public final class StarShells {
                 long upper = shell + 1 < count ? springs[shell + 1] : 0;
                 long beside = springs[shell];
                 if (beside == 0) {
-                    before = 0;
                     last = 1;
                     negative = false;
                 }
