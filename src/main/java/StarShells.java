@@ -319,9 +319,11 @@ public final class StarShells {
         if (!isStar(star) || i < NONE) {
             return NONE;
         }
+        // To lead light through for every UNIT is dear: only where it is asked for.
+        boolean lit = sawLight(star);
         int found = 0;
         for (int unit = 1; unit <= MOST_FITTING_UNIT; unit++) {
-            if (fitsWith(star, unit)) {
+            if (fitsWith(star, unit, lit)) {
                 if (found == i) {
                     return unit;
                 }
@@ -412,10 +414,22 @@ public final class StarShells {
         return inside.calmness > 0 && tones.listen(inside);
     }
 
-    private boolean fitsWith(int star, int unit) {
+    private boolean sawLight(int star) {
+        for (int sight = 0; sight < now.sights; sight++) {
+            if (sights.stars[sight] == star && sights.tones[sight] == NONE) {
+                return true;
+            }
+        }
+        return false;
+    }
+
+    private boolean fitsWith(int star, int unit, boolean lit) {
         inside.settle(now.stars[star], lawsNow(), unit);
         if (inside.calmness == 0) {
             return false;
+        }
+        if (lit) {
+            inside.shine(now.stars[star], lawsNow());
         }
         boolean heard = tones.listen(inside);
         for (int sight = 0; sight < now.sights; sight++) {
@@ -431,7 +445,6 @@ public final class StarShells {
         int to = sights.to[sight];
         int tone = sights.tones[sight];
         if (tone == NONE) {
-            inside.shine(now.stars[sights.stars[sight]], lawsNow());
             int rim = inside.shells - 1;
             return rim >= 0 && inside.least[rim] <= to && inside.greatest[rim] >= from;
         }
@@ -1115,11 +1128,9 @@ public final class StarShells {
         int shells;
         /** As settled answers it. */
         int calmness;
-        private boolean hasShone;
 
         void settle(Star star, Laws laws, int unit) {
             shells = star.shells;
-            hasShone = false;
             calmness = shells == 0 ? 0 : 2;
             int above = 0;
             for (int shell = shells - 1; shell >= 0; shell--) {
@@ -1136,12 +1147,8 @@ public final class StarShells {
             }
         }
 
-        /** THROUGH and what it makes of the SHELLS, once behind each settle: it is dear. */
+        /** THROUGH and what it makes of the SHELLS, behind settle. */
         void shine(Star star, Laws laws) {
-            if (hasShone) {
-                return;
-            }
-            hasShone = true;
             long low = 0;
             long high = 0;
             for (int shell = 0; shell < shells; shell++) {
