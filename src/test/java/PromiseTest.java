@@ -1,71 +1,5 @@
 /** Promise by promise: ordinary calls, the edges that the document names, and wrong arguments. */
-public final class PromiseTest {
-    private static final int NONE = StarShells.NONE;
-    private static final String IDENTITY = "push 0=0 to 0,999=999 to 999;";
-    private static final String WIDE = "push 0=0 to 9999;";
-    private static int wrong = 0;
-    private static int asked = 0;
-
-    private static void due(String call, long got, long want) {
-        asked++;
-        if (got != want) {
-            wrong++;
-            System.out.println(call + " answered " + got + ", due is " + want);
-        }
-    }
-
-    private static void due(String call, boolean got, boolean want) {
-        due(call, got ? 1 : 0, want ? 1 : 0);
-    }
-
-    /** The text comes on the tape, without being read. */
-    private static void put(StarShells x, String text) {
-        int ahead = x.about(7);
-        for (int at = 0; at < text.length(); at += 20) {
-            int[] w = new int[5];
-            for (int i = 0; i < 20; i++) {
-                int sign = at + i < text.length() ? text.charAt(at + i) : ' ';
-                w[i / 4] = w[i / 4] << 8 | sign;
-            }
-            x.feed(w[0], w[1], w[2], w[3], w[4]);
-        }
-        x.end(ahead + text.length());
-    }
-
-    private static int tell(StarShells x, String text) {
-        put(x, text);
-        return x.text();
-    }
-
-    private static StarShells with(String... texts) {
-        StarShells x = new StarShells();
-        for (String text : texts) {
-            due("text() of " + text, tell(x, text), x.about(0));
-            due("fault(0) of " + text, x.fault(0), 0);
-        }
-        return x;
-    }
-
-    /** A new SHELL on the rim with parts of A, B and so on. */
-    private static void shell(StarShells x, int star, int... parts) {
-        int shell = x.shell(star);
-        for (int kind = 0; kind < parts.length; kind++) {
-            due("fill", x.fill(star, shell, kind, parts[kind]), true);
-        }
-    }
-
-    private static void parts(StarShells x, int star, int shell, int... parts) {
-        for (int kind = 0; kind < parts.length; kind++) {
-            due("parts(" + star + ", " + shell + ", " + kind + ")", x.parts(star, shell, kind), parts[kind]);
-        }
-    }
-
-    private static void event(StarShells x, int i, int... row) {
-        for (int what = 0; what < 5; what++) {
-            due("event(" + i + ", " + what + ")", x.event(i, what), row.length == 0 ? NONE : row[what]);
-        }
-    }
-
+public final class PromiseTest extends Calls {
     public static void main(String[] args) {
         aNewObject();
         tape();
@@ -89,10 +23,7 @@ public final class PromiseTest {
         fits();
         images();
         abouts();
-        System.out.println(asked + " answers, " + wrong + " not as due");
-        if (wrong != 0) {
-            System.exit(1);
-        }
+        finish();
     }
 
     // Promise 1
@@ -197,16 +128,6 @@ public final class PromiseTest {
         due("the tape stays", x.about(7), 8);
         due("text()", x.text(), NONE);
         due("fault(0)", x.fault(0), 1);
-    }
-
-    private static void fault(String text, int number, int place) {
-        StarShells x = new StarShells();
-        int answer = tell(x, text);
-        due("text() of " + text, answer, number == 0 ? 1 : NONE);
-        due("fault(0) of " + text, x.fault(0), number);
-        due("fault(1) of " + text, x.fault(1), number == 0 ? NONE : place);
-        due("about(7) behind " + text, x.about(7), 0);
-        due("about(0) behind " + text, x.about(0), number == 0 ? 1 : 0);
     }
 
     // Promise 5
@@ -689,10 +610,10 @@ public final class PromiseTest {
         // The most light of one place is more than an int holds.
         x = with(WIDE + "chain 0 A 1 to B 1 light 999;rate 0 0=9999 to 9999;");
         shell(x, 1);
-        for (int i = 0; i < 250; i++) {
+        for (int i = 0; i < 25; i++) {
             x.fill(1, 0, 0, 100000);
             x.fill(1, 0, 1, 0);
-            x.steps(1, 1);
+            x.steps(1, 10);
         }
         due("light(1, 0, 0)", x.light(1, 0, 0), 2497250250L);
     }
