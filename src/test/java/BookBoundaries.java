@@ -1,6 +1,5 @@
 /** The edges of promises 20 to 24: parts that are HANDED over, THE BOOK and THE SHEET. */
 final class BookBoundaries extends Sentences {
-    private static final int[] FAR = {LEAST, LEAST + 1, -2, -1, GREATEST - 1, GREATEST};
     private static final String BURNING = WIDE + "chain 0 A 1 to B 1 light 5;chain 4 A 1 to C 1 light 3;"
         + "rate 0 0=1 to 1;rate 4 0=1 to 1;";
 

@@ -3,6 +3,8 @@ class Calls {
     static final int NONE = StarShells.NONE;
     static final int LEAST = Integer.MIN_VALUE;
     static final int GREATEST = Integer.MAX_VALUE;
+    /** No number of anything: below 0, or far above all that the document names. */
+    static final int[] FAR = {LEAST, LEAST + 1, -100000, -2, -1, GREATEST - 1, GREATEST};
     /** At a HEAT of h push is h. */
     static final String IDENTITY = "push 0=0 to 0,999=999 to 999;";
     /** Any NEED up to 9999 can be at any HEAT. */

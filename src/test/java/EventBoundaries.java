@@ -1,7 +1,5 @@
 /** The edges of promise 19: what is BURNT OUT, what is LIT, and how many EVENTS are kept. */
 final class EventBoundaries extends Sentences {
-    private static final int[] FAR = {LEAST, LEAST + 1, -2, -1, GREATEST - 1, GREATEST};
-
     static void run() {
         burntOut();
         lit();
@@ -96,6 +94,18 @@ final class EventBoundaries extends Sentences {
             due("steps(0, 1)", x.steps(0, 1), 1);
             event(x, 4, 10, 0, 1, 0, 1);
             event(x, 5);
+            // A CHAIN that isn't told in a STEP makes no light in it, and so may be LIT behind it.
+            StarShells y = with(WIDE, "chain 0 A 1 to B 1 light 1;rate 0 0=1 to 1;");
+            shell(y, 0, 50);
+            due("steps(0, 1)", y.steps(0, 1), 1);
+            due("look(1)", y.look(1), true);
+            due("steps(0, 1)", y.steps(0, 1), 1);
+            parts(y, 0, 0, 49, 1);
+            due("about(5)", y.about(5), 1);
+            due("look(2)", y.look(2), true);
+            due("steps(0, 1)", y.steps(0, 1), 1);
+            event(y, 1, 2, 0, 0, 0, 1);
+            event(y, 2);
             // STEPS that couldn't be aren't ahead.
             x.look(0);
             due("steps(0, 1)", x.steps(0, 1), 0);

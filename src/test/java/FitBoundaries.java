@@ -1,6 +1,7 @@
 /** The edges of promises 27 and 28: what was SEEN, and the UNITS that FIT. */
 final class FitBoundaries extends Sentences {
-    private static final int[] FAR = {LEAST, LEAST + 1, -3, -2, GREATEST - 1, GREATEST};
+    /** FAR without NONE, which asks for light or for how many. */
+    private static final int[] FAR_BUT_NONE = {LEAST, LEAST + 1, -3, -2, GREATEST - 1, GREATEST};
 
     static void run() {
         seeing();
@@ -34,13 +35,32 @@ final class FitBoundaries extends Sentences {
                 due("the 21st", x.seen(star, NONE, 0, 400), NONE);
             }
             due("about(6)", x.about(6), 20);
+            // All of them count, the last one too.
+            x = needing(100, IDENTITY);
+            for (int n = 1; n < 20; n++) {
+                x.seen(n % 2, 0, n % 2 == 0 ? 3 : 77, n % 2 == 0 ? 10 : 77);
+            }
+            fit(x, 1, 2, 3);
+            due("the 20th", x.seen(0, 0, 0, 10), 20);
+            fit(x, 1, 2, 3);
+            due("the 21st", x.seen(0, 0, 5, 5), NONE);
+            fit(x, 1, 2, 3);
+            due("back()", x.back(), 0);
+            tell(x, IDENTITY);
+            shell(x, 0, 200);
+            for (int n = 1; n < 20; n++) {
+                x.seen(0, NONE, 0, n);
+            }
+            due("light alone", x.fits(0, NONE), 200);
+            due("the 20th", x.seen(0, 0, 5, 5), 20);
+            fit(x, 2);
         });
     }
 
     private static void refused() {
         sentence(27, "NONE for others, or if there are 20", () -> {
             StarShells x = new StarShells();
-            for (int far : FAR) {
+            for (int far : FAR_BUT_NONE) {
                 due("seen(" + far + ", ..)", x.seen(far, 0, 0, 0), NONE);
                 due("seen(0, " + far + ", ..)", x.seen(0, far, 0, 0), NONE);
             }
@@ -222,7 +242,7 @@ final class FitBoundaries extends Sentences {
         sentence(28, "NONE if there is none such, and for others", () -> {
             StarShells x = needing(400, "push 0=300 to 500;");
             fit(x, 1);
-            for (int far : FAR) {
+            for (int far : FAR_BUT_NONE) {
                 due("fits(" + far + ", 0)", x.fits(far, 0), NONE);
                 due("fits(" + far + ", -1)", x.fits(far, NONE), NONE);
                 due("fits(0, " + far + ")", x.fits(0, far), NONE);

@@ -1,6 +1,5 @@
 /** The edges of promises 29 to 31: THE IMAGE, what BACK leaves alone, and about. */
 final class ImageBoundaries extends Sentences {
-    private static final int[] FAR = {LEAST, LEAST + 1, -100, -2, -1, GREATEST - 1, GREATEST};
     private static final String BURNING = WIDE + "chain 0 A 1 to B 1 light 5;rate 0 0=1 to 1;";
 
     static void run() {

@@ -1,7 +1,5 @@
 /** The edges of promises 6 to 9: THE LOOK, and THE LAWS by it. */
 final class LawBoundaries extends Sentences {
-    private static final int[] FAR = {LEAST, LEAST + 1, -1000, -2, -1, GREATEST - 1, GREATEST};
-
     static void run() {
         looks();
         kindsAndChains();
@@ -140,6 +138,17 @@ final class LawBoundaries extends Sentences {
         due("law(0, " + heat + ", true)", x.law(0, heat, true), high);
     }
 
+    /** A TABLE of 8 POINTS. */
+    private static String eight(int table) {
+        StringBuilder text = new StringBuilder(table == 0 ? "push " : table == 1 ? "haze " : "rate " + (table - 2) + " ");
+        for (int point = 0; point < 8; point++) {
+            int low = 100 * table + point;
+            text.append(point == 0 ? "" : ",").append(10 + table + 9 * point).append('=').append(low).append("to")
+                .append(low + 9);
+        }
+        return text.append(';').toString();
+    }
+
     private static void spans() {
         sentence(9, "at a POINT its LOW and HIGH", () -> {
             StarShells x = with("push 0=5 to 9,1=9999 to 9999,2=0 to 0,500=3 to 4,998=7 to 8,999=0 to 9999;");
@@ -189,6 +198,28 @@ final class LawBoundaries extends Sentences {
             x = with("push 999=3 to 5;");
             span(x, 0, 3, 5);
             span(x, 999, 3, 5);
+        });
+        sentence(9, "POINTS: POINT {, POINT} (8 at most)", () -> {
+            // Every TABLE has 8, at HEATS of its own: LOW is 100 and so on at the first, and rises by 1.
+            StarShells x = with(eight(0) + eight(1) + eight(2), eight(3) + eight(4) + eight(5), eight(6));
+            for (int table = 0; table < 7; table++) {
+                for (int point = 0; point < 8; point++) {
+                    int heat = 10 + table + 9 * point;
+                    due("LOW at POINT " + point, x.law(table, heat, false), 100 * table + point);
+                    due("HIGH at POINT " + point, x.law(table, heat, true), 100 * table + point + 9);
+                    due("LOW ahead of it", x.law(table, heat - 1, false), 100 * table + Math.max(point - 1, 0));
+                }
+                due("LOW ahead of all", x.law(table, 0, false), 100 * table);
+                due("HIGH behind all", x.law(table, 999, true), 100 * table + 16);
+            }
+            // Told again with fewer: nothing is left of the others.
+            due("text()", tell(x, "push 500=7 to 7;haze 500=8 to 8,600=9 to 9;"), 4);
+            for (int heat : new int[] {0, 10, 19, 73, 500, 999}) {
+                span(x, heat, 7, 7);
+            }
+            due("haze", x.law(1, 11, false), 8);
+            due("haze", x.law(1, 999, true), 9);
+            due("a rate that stays", x.law(2, 12, false), 200);
         });
         sentence(9, "0 to 0 without a TABLE", () -> {
             StarShells x = with("kind A 1;", "push 0=3 to 5;");

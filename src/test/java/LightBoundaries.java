@@ -1,6 +1,5 @@
 /** The edges of promise 16, and of CALM, CHURNED, OPEN in promise 14. */
 final class LightBoundaries extends Sentences {
-    private static final int[] FAR = {LEAST, LEAST + 1, -2, -1, GREATEST - 1, GREATEST};
     private static final String CHAIN = "chain 0 A 1 to B 1 light 1;";
     /** For a NEED of 5 the BOX is 10 .. 20, and another one is 40 .. 50. */
     private static final String TWO_BOXES =
@@ -65,6 +64,16 @@ final class LightBoundaries extends Sentences {
             // Lines that go on beyond the BOX: what they are at its ends, cut down and rounded up.
             through(withRate("0=0 to 0,30=10 to 10"), 0, 3, 7);
             through(withRate("0=10 to 10,30=0 to 0"), 0, 3, 7);
+            // All of 8 POINTS in the BOX, the extremes first, last or between; then fewer, and none of the 8 is left.
+            StarShells y = withRate("11=1 to 9,12=4 to 5,13=4 to 5,14=4 to 5,15=4 to 5,16=4 to 5,17=4 to 5,18=4 to 5");
+            through(y, 0, 1, 9);
+            tell(y, "haze 11=0 to 9999,12=0 to 0,13=0 to 0,14=0 to 0,15=0 to 0,16=0 to 0,17=0 to 0,18=0 to 9999;"
+                + "rate 0 11=4 to 5,12=4 to 5,13=4 to 5,14=4 to 5,15=4 to 5,16=4 to 5,17=4 to 5,18=1 to 9;");
+            through(y, 0, 1, 9);
+            tell(y, "rate 0 11=4 to 5,12=4 to 5,13=4 to 5,14=4 to 5,15=0 to 8,16=4 to 5,17=4 to 5,18=4 to 5;");
+            through(y, 0, 0, 8);
+            tell(y, "rate 0 11=4 to 5,12=4 to 5,13=4 to 5,14=4 to 5;");
+            through(y, 0, 4, 5);
             // The other BOX doesn't count.
             through(withRate("39=3 to 4,40=0 to 9,50=0 to 9"), 0, 3, 4);
         });

@@ -1,7 +1,5 @@
 /** The edges of promises 10 to 15 and 17: SHELLS, their parts, NEED, BOXES, and what is SETTLED. */
 final class ShellBoundaries extends Sentences {
-    private static final int[] FAR = {LEAST, LEAST + 1, -100000, -2, -1, GREATEST - 1, GREATEST};
-
     static void run() {
         coming();
         filling();
@@ -263,6 +261,16 @@ final class ShellBoundaries extends Sentences {
             due("behind the last POINT", x.of(0, 0, 4), 999);
             x = needing(0, "push 0=0 to 0,10=7 to 7;");
             due("ahead of 1.4", x.of(0, 0, 4), 1);
+            // Lines that rise or fall by one alone.
+            int[][] ones = {{0, 0, 9}, {1, 1, 999}};
+            for (int[] row : ones) {
+                x = needing(row[0], "push 0=0 to 0,10=1 to 1;");
+                due("rising: the lowest for " + row[0], x.of(0, 0, 3), row[1]);
+                due("rising: the greatest for " + row[0], x.of(0, 0, 4), row[2]);
+                x = needing(1 - row[0], "push 0=1 to 1,10=0 to 0;");
+                due("falling: the lowest for " + (1 - row[0]), x.of(0, 0, 3), row[1]);
+                due("falling: the greatest for " + (1 - row[0]), x.of(0, 0, 4), row[2]);
+            }
             x = needing(9999, WIDE);
             due("9999", x.settled(0), 2);
             x = needing(10000, WIDE);
@@ -325,6 +333,22 @@ final class ShellBoundaries extends Sentences {
             box(x, 0, 11, 13);
             box(x, 1, 998, 999);
             box(x, 2, NONE, NONE);
+            // Of each SHELL and STAR by itself, and as the parts are by then: NEEDS 45, 30 and 10, and 20.
+            x = with(IDENTITY);
+            shell(x, 0, 10);
+            shell(x, 0, 20);
+            shell(x, 0, 20);
+            shell(x, 1, 40);
+            x.rules(0, 1, 0);
+            x.rules(1, 1, 0);
+            due("the rim of STAR 0", x.box(0, 2, 0, true), 10);
+            due("STAR 1", x.box(1, 0, 0, true), 20);
+            due("between", x.box(0, 1, 0, false), 30);
+            due("the middle", x.box(0, 0, 0, false), 45);
+            x.fill(0, 2, 0, 30);
+            due("between", x.box(0, 1, 0, true), 40);
+            x.rules(0, 2, 0);
+            due("the middle", x.box(0, 0, 0, true), 27);
         });
         sentence(15, "NONE if there is none such", () -> {
             StarShells x = needing(5, WIDE);

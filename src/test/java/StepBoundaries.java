@@ -1,7 +1,5 @@
 /** The edges of promise 18: when a STEP can be, how much burns in it, and what is mixed. */
 final class StepBoundaries extends Sentences {
-    private static final int[] FAR = {LEAST, LEAST + 1, -2, -1, GREATEST - 1, GREATEST};
-
     static void run() {
         counts();
         most();
@@ -272,6 +270,20 @@ final class StepBoundaries extends Sentences {
 
     private static void groups() {
         sentence(18, "one beside the other, each KIND's parts are mixed", () -> {
+            // The middle makes no light and is CALM: it isn't mixed with the two above.
+            StarShells y = with(BRIGHT);
+            shell(y, 0, 0, 0, 7);
+            shell(y, 0, 5);
+            shell(y, 0, 1, 0, 3);
+            y.rules(0, 100, 9);
+            int[] calm = {0, 1, 1};
+            for (int shell = 0; shell < 3; shell++) {
+                due("of(0, " + shell + ", 5)", y.of(0, shell, 5), calm[shell]);
+            }
+            due("steps(0, 1)", y.steps(0, 1), 1);
+            parts(y, 0, 0, 0, 0, 7);
+            parts(y, 0, 1, 2, 1, 2);
+            parts(y, 0, 2, 2, 1, 1);
             // HEATS 145, 115, 85, 55, 25 and 5: by haze 0, 2 and 3, 5 alone of them are CHURNED.
             StarShells x = with(IDENTITY + "chain 0 F 1 to E 1 light 10;rate 0 0=1 to 1;",
                 "haze 20=9999 to 9999,30=0 to 0,40=9999 to 9999,90=9999 to 9999,91=0 to 0,120=0 to 0,121=9999 to 9999;");

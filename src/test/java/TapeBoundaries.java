@@ -186,6 +186,10 @@ final class TapeBoundaries extends Sentences {
             put(x, ";");
             due("text()", x.text(), 2);
             due("weight(1)", x.weight(1), 4);
+            put(x, "kindly");
+            due("end(4)", x.end(4), 4);
+            due("text()", x.text(), NONE);
+            due("the end can't stand there, the word can", x.fault(1), 4);
             put(x, "nonsense");
             due("end(0)", x.end(0), 0);
             due("text() of nothing", x.text(), 3);
@@ -244,6 +248,12 @@ final class TapeBoundaries extends Sentences {
             fault(text + "kind E 8#", 1, 399);
             fault(text + "kind E 88", 1, 400);
             fault(text + "kind E 8", 1, 399);
+            fault("a".repeat(400), 1, 0);
+            fault("1".repeat(400), 1, 0);
+            fault(" ".repeat(396) + "kind", 1, 400);
+            fault(" ".repeat(393) + "kind A1", 1, 400);
+            fault(" ".repeat(394) + "push 1", 1, 400);
+            taken(" ".repeat(400));
         });
         sentence(4, "NONE: it has a FAULT", () -> {
             String good = "kind A 2;kind B 2;chain 1 A 1 to B 1 light 5;push 1=1 to 2,5=3 to 4;haze 2=5 to 6;rate 1 3=7 to 8;";

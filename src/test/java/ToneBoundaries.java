@@ -1,7 +1,5 @@
 /** The edges of promises 25 and 26: how many TONES are BELOW a number, and the BOX of each. */
 final class ToneBoundaries extends Sentences {
-    private static final int[] FAR = {LEAST, LEAST + 1, -2, -1, GREATEST - 1, GREATEST};
-
     static void run() {
         springs();
         counting();
@@ -64,6 +62,16 @@ final class ToneBoundaries extends Sentences {
     }
 
     private static void counting() {
+        sentence(25, "Its HEAT then is the lowest of its first BOX", () -> {
+            // It is SETTLED, though a SHELL has two BOXES: 60 and 140 for NEED 60, K 6 by the first.
+            StarShells x = with("push 0=0 to 0,100=100 to 100,200=0 to 0;");
+            shell(x, 0, 120);
+            x.rules(0, 1, 1000);
+            due("settled(0)", x.settled(0), 1);
+            due("tone(0, 0)", x.tone(0, 0), 6);
+            due("below(0, 6)", x.below(0, 6), 0);
+            due("below(0, 7)", x.below(0, 7), 1);
+        });
         sentence(25, "How many TONES are BELOW n", () -> {
             StarShells x = heated(80, 30);
             int[][] rows = {{0, 0}, {1, 0}, {2, 0}, {3, 1}, {11, 1}, {12, 1}, {13, 2}, {14, 2}, {399, 2}, {400, 2}};
@@ -163,7 +171,12 @@ final class ToneBoundaries extends Sentences {
                 shell(x, 0, 10);
                 due("the last of " + shells, x.tone(0, shells - 1), 0);
             }
-            // By hand: each BOX by the counts.
+            // Two of K 98: 98 * (3 + root of 5) / 2 is 256.57.
+            x = with("push 979=9999 to 9999,980=0 to 9999;");
+            shell(x, 0, 10);
+            shell(x, 0, 10);
+            due("tone(0, 1)", x.tone(0, 1), 256);
+            // Each BOX by the counts.
             x = hot(5);
             for (int k = 0; k < 5; k++) {
                 int box = x.tone(0, k);

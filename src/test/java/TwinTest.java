@@ -2,7 +2,11 @@ import java.util.ArrayList;
 import java.util.List;
 import java.util.Random;
 
-/** Random runs of calls on StarShells and on its slow twin: both must answer alike. Argument: how many runs. */
+/**
+ * Random runs of calls on StarShells and on its slow twin: both must answer alike. Argument: how many runs. Runs
+ * go on beyond the 512th call, where the document leaves answers free: the class counts no calls, so what differs
+ * there would be a fault all the same.
+ */
 public final class TwinTest {
     private static int wrong = 0;
     private static long calls = 0;
