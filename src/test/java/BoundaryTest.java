@@ -12,7 +12,9 @@ public final class BoundaryTest extends Sentences {
         ToneBoundaries.run();
         FitBoundaries.run();
         ImageBoundaries.run();
+        TermBoundaries.run();
         allAreQuoted();
+        everyTermIsQuoted();
         finish();
     }
 }

@@ -40,6 +40,7 @@ public final class LanguageTest {
     }
 
     public static void main(String[] args) throws Exception {
+        documentFace(Files.readString(Path.of("../shared/DOC.md")));
         face();
         source(Files.readString(Path.of("src/main/java/StarShells.java")));
         room();
@@ -51,6 +52,18 @@ public final class LanguageTest {
 
     private static boolean isHidden(Member member) {
         return Modifier.isPrivate(member.getModifiers());
+    }
+
+    /** FACE is what the document has. */
+    private static void documentFace(String document) {
+        Matcher method = Pattern.compile("public (int|long|boolean) (\\w+)\\((.*?)\\);").matcher(document);
+        List<String> told = new ArrayList<>();
+        while (method.find()) {
+            String types = method.group(3).replaceAll(" \\w+(, )?", ",").replaceAll(",$", "");
+            told.add(method.group(2) + "(" + types + ")" + method.group(1));
+        }
+        due(told.equals(Arrays.asList(FACE)), "the document's face is " + told);
+        due(document.contains("public static final int NONE = -1;"), "the document's NONE");
     }
 
     private static void face() throws Exception {

@@ -35,6 +35,23 @@ class Sentences extends Calls {
         System.out.println(tests + " sentences");
     }
 
+    /** No word of the Terms is left out: what stands between the quotes are signs and marks alone. */
+    static void everyTermIsQuoted() {
+        String terms = section(0).replaceFirst("^.*?## Terms ", "").replaceAll("```(text)?|==== [IV]+\\.", "|");
+        StringBuilder left = new StringBuilder(terms);
+        for (Set<String> quotes : QUOTED.values()) {
+            for (String words : quotes) {
+                int at = terms.indexOf(words);
+                if (at >= 0) {
+                    left.replace(at, at + words.length(), "|".repeat(words.length()));
+                }
+            }
+        }
+        for (String gap : left.toString().split("\\|+")) {
+            due("\"" + gap.trim() + "\" of the Terms has a test, which", gap.matches("[^A-Za-z]*"), true);
+        }
+    }
+
     private static boolean isQuoted(int promise, String told) {
         for (String words : QUOTED.getOrDefault(promise, Set.of())) {
             if (told.contains(words) || words.contains(told)) {
