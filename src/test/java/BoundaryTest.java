@@ -13,6 +13,7 @@ public final class BoundaryTest extends Sentences {
         FitBoundaries.run();
         ImageBoundaries.run();
         TermBoundaries.run();
+        ToneTermBoundaries.run();
         allAreQuoted();
         everyTermIsQuoted();
         finish();

@@ -40,7 +40,10 @@ public final class LanguageTest {
     }
 
     public static void main(String[] args) throws Exception {
-        documentFace(Files.readString(Path.of("../shared/DOC.md")));
+        Path document = Path.of("../shared/DOC.md");
+        if (Files.exists(document)) {
+            documentFace(Files.readString(document));
+        }
         face();
         source(Files.readString(Path.of("src/main/java/StarShells.java")));
         room();

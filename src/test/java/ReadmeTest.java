@@ -8,7 +8,6 @@ import java.util.List;
 import java.util.regex.Matcher;
 import java.util.regex.Pattern;
 import java.util.stream.Stream;
-import javax.tools.ToolProvider;
 
 /** What README.md says is so: its Java answers what it says there, and what it names is there. */
 public final class ReadmeTest extends Calls {
@@ -65,8 +64,8 @@ public final class ReadmeTest extends Calls {
         Path folder = Files.createTempDirectory("readme");
         Path file = folder.resolve("ReadmePage.java");
         Files.writeString(file, source);
-        int code = ToolProvider.getSystemJavaCompiler().run(null, null, null, "-cp", System.getProperty("java.class.path"),
-            "-d", folder.toString(), file.toString());
+        int code = new ProcessBuilder("javac", "-cp", System.getProperty("java.class.path"), "-d", folder.toString(),
+            file.toString()).inheritIO().start().waitFor();
         due("its Java compiles, which", code, 0);
         if (code == 0) {
             try (URLClassLoader loader = new URLClassLoader(new URL[] {folder.toUri().toURL()})) {
@@ -86,7 +85,7 @@ public final class ReadmeTest extends Calls {
     }
 
     private static void names(String page) throws IOException {
-        Matcher path = Pattern.compile("`((?:src|\\.\\./shared|\\.ci)/[\\w./]+)`").matcher(page);
+        Matcher path = Pattern.compile("`((?:src|\\.ci)/[\\w./]+)`").matcher(page);
         while (path.find()) {
             due(path.group(1) + " is there, which", Files.exists(Path.of(path.group(1))), true);
         }

@@ -37,6 +37,9 @@ class Sentences extends Calls {
 
     /** No word of the Terms is left out: what stands between the quotes are signs and marks alone. */
     static void everyTermIsQuoted() {
+        if (!hasDocument()) {
+            return;
+        }
         String terms = section(0).replaceFirst("^.*?## Terms ", "").replaceAll("```(text)?|==== [IV]+\\.", "|");
         StringBuilder left = new StringBuilder(terms);
         for (Set<String> quotes : QUOTED.values()) {
